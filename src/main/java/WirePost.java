@@ -266,7 +266,8 @@ public final class WirePost {
     public int meet(int walker, int other, int what) throws NoSuchElementException, IllegalArgumentException {
         needBoth(walker, town.walkers, other, town.walkers);
         needRange(what, 0, 1);
-        return what == 0 ? ways.meetingTower(walker, other) : ways.meetingWires(walker, other);
+        int tower = ways.meetingTower(walker, other);
+        return what == 0 || tower == NONE ? tower : ways.together[tower];
     }
 
     public int parts(int what) throws IllegalArgumentException {
@@ -1235,19 +1236,19 @@ public final class WirePost {
         int leanInFog(int walker, int wire, int how, int fog) {
             tellWalk(walker, wire, how, fog);
             tellLetters(carriedBy(walker));
-            return leanAsTold();
+            return rule.leanBy(values);
         }
 
         int leanWith(int walker, int wire, int how, int bits) {
             tellWalk(walker, wire, how, fogNow());
             tellLetters(bits);
-            return leanAsTold();
+            return rule.leanBy(values);
         }
 
         int leanWithOne(int walker, int wire, int kind, int weight) {
             tellWalk(walker, wire, 0, fogNow());
             tellLoad(weight, kind, 1);
-            return leanAsTold();
+            return rule.leanBy(values);
         }
 
         boolean holds(int walker, int lean) {
@@ -1278,7 +1279,7 @@ public final class WirePost {
             if (wire == NONE) {
                 return false;
             }
-            int lean = leanNow(walker, wire, town.endA[wire] == from ? 0 : 1);
+            int lean = leanInFog(walker, wire, town.endA[wire] == from ? 0 : 1, fogNow());
             cells[HUM + wire]++;
             if (holds(walker, lean)) {
                 cells[PLACE + walker] = tower;
@@ -1763,13 +1764,8 @@ public final class WirePost {
             return best;
         }
 
-        int meetingWires(int walker, int other) {
-            int tower = meetingTower(walker, other);
-            return tower == NONE ? NONE : together[tower];
-        }
-
         private void addWays(int walker) {
-            readyAsHeIs(walker);
+            ready(walker, post.carriedBy(walker));
             for (int k = 0; k < town.towers; k++) {
                 int wires = hops(post.placeOf(walker), k);
                 together[k] = wires == NONE || together[k] == NONE ? NONE : together[k] + wires;
