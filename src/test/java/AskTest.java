@@ -23,6 +23,7 @@ public final class AskTest {
         middle();
         share();
         season();
+        seasonOfFalls();
         seasonOfTwoLetters();
         span();
         wrongArguments();
@@ -256,6 +257,9 @@ public final class AskTest {
         Due.book(x, "0 0;1 7;2 7;");
         Due.same("all in lines", -1, x.look(0, 0));
         Due.same("all in lines, left", -1, x.look(0, 1));
+        WirePost alike = Due.of("tower 0;tower 0;tower 0;wire 0 1 1;wire 0 2 2;wire 1 2 3;walker 0 0 6;", "load*99");
+        Due.same("of alike ones the first", 0, alike.look(0, 0));
+        Due.same("all are left", 54, alike.look(0, 1));
         WirePost y = Due.of("tower 0;walker 0 0 6;");
         Due.same("there are none", -1, y.look(0, 0));
         Due.same("there are none, left", -1, y.look(0, 1));
@@ -303,6 +307,10 @@ public final class AskTest {
         Due.same("letter 1", 0, y.matched(1));
         Due.same("letter 2", 2, y.matched(2));
         Due.same("letter 3", -1, y.matched(3));
+        WirePost alone = Due.of("tower 0;walker 0 0 1;walker 0 0 0;letter 0 0 0 1;letter 0 0 1 1;");
+        Due.same("asked without match()", 1, alone.matched(0));
+        Due.work(alone, "take 1 0;");
+        Due.same("and as it is now", -1, alone.matched(0));
         WirePost z = Due.of("tower 0;walker 0 0 6;walker 0 0 0;letter 0 0 0 1;letter 0 0 1 1;");
         Due.same("two", 2, z.match());
         Due.same("letter 0 to 1, that letter 1 has one", 1, z.matched(0));
@@ -344,6 +352,9 @@ public final class AskTest {
                 + "wire 5 6 0;wire 6 7 0;walker 0 0 6;", "fog");
         chance(line, 7, 3, 62748517, 268435456);
         chance(line, 7, 14, 1, 2097152);
+        WirePost steep = Due.of("tower 0;tower 9;tower 1;wire 1 0 0;wire 1 2 0;walker 0 9 6;", "most[rise,0]+fog*rise");
+        chance(steep, 1, 5, 11, 16);
+        chance(steep, 2, 5, 11, 16);
     }
 
     private static void rests(int v, int a, int b, int many, int first, int together) {
@@ -440,6 +451,32 @@ public final class AskTest {
         Due.same("none without", 0, x.season(5, 0, 96, 1));
         Due.same("nothing stays", 0, x.told(7) + x.walker(0, 5) + x.told(5));
         Due.same("without walkers", 0, Due.of("tower 0;letter 0 0 0 1;").season(5, 16, 96, 3));
+    }
+
+    /** A fall with two letters on the first walk that can be done; up again by night. */
+    private static void seasonOfFalls() {
+        WirePost x = Due.of("tower 0;tower 0;wire 0 1 0;walker 0 0 6;walker 0 0 6;letter 0 0 0 1;", "1");
+        for (int seed = 0; seed < 9; seed++) {
+            Draw draw = new Draw(seed);
+            boolean[] fallen = new boolean[2];
+            int falls = 0;
+            for (int k = 1; k <= 30; k++) {
+                int walker = draw.by(2);
+                if (draw.by(2) == 1 && !fallen[walker]) {
+                    falls++;
+                    fallen[walker] = true;
+                }
+                draw.by(16);
+                if (k % 8 == 0) {
+                    fallen = new boolean[2];
+                }
+            }
+            Due.same("falls by " + seed, falls, x.season(seed, 0, 30, 1));
+            Due.same("walks by " + seed, falls, x.season(seed, 0, 30, 2));
+        }
+        Due.work(x, "go 0 1;go 1 1;");
+        Due.same("who has fallen falls not again", 0, x.season(4, 0, 8, 1));
+        Due.same("falls so far stay", 1, x.walker(0, 5));
     }
 
     /** One tower alone: he takes two by number, and gives them, who stands at their T, in the next walk. */

@@ -122,6 +122,9 @@ public final class TextTest {
         cityFault("tow er 1;", 1, 0);
         cityFault("tower 1\t;", 1, 7);
         cityFault("towerx 1;", 1, 0);
+        cityFault("cower 1;", 1, 0);
+        cityFault("tower 1;tdwer 1;", 1, 8);
+        cityFault("towez 1;", 1, 0);
         cityFault("\u00e9", 1, 0);
         cityFault("tower 1;\0", 1, 8);
         cityFault(two + "wire 0 2 0;", 2, 23);
@@ -180,6 +183,12 @@ public final class TextTest {
         Due.same("status stays", 1, x.status(0));
         Due.same("nothing carried", 0, x.walker(0, 3));
         Due.same("all lie at F", 1, x.letter(1, 4));
+        int[] told = {3, 2, 2, 2};
+        for (int what = 0; what < 4; what++) {
+            Due.same("told anew " + what, told[what], x.told(what));
+        }
+        Due.work(x, "again 2[");
+        Due.same("a work behind one that ends too early", 1, Due.work(x, "fog;"));
     }
 
     private static void lawFault(String text, int kind, int place) {
@@ -231,6 +240,7 @@ public final class TextTest {
         lawIs("((((((1))))))+((((((1))))))", 2);
         lawIs("1+1*least[1,1+1*least[1,1+1*least[1,1+1*least[1,1+1*least[1,1+1*least[9,1+1*1]]]]]]", 2);
         lawIs("1-2*most[3,4-5*most[6,7-8*most[9,9-8*most[7,6-5*most[4,3-2*most[1,2-3*4]]]]]]", -5);
+        lawIs("1+1*most[0,1+1*most[0,1+1*most[0,1+1*most[0,1+1*most[0,1+1*most[0,1+1*5]]]]]]", 12);
         lawFault("", 1, 0);
         lawFault("  ", 1, 2);
         lawFault("1000", 2, 0);
@@ -260,6 +270,8 @@ public final class TextTest {
         lawFault("((((((most x", 3, 6);
         lawFault("((((((mos x", 1, 6);
         lawFault("least[1,least[1,least[1,least[1,least[1,least[1, (", 3, 49);
+        lawIs("least[least[least[least[least[least[6,7],7],7],7],7],7]", 6);
+        lawFault("least[least[least[least[least[least[ most[", 3, 37);
     }
 
     private static void workFault(String text, int kind, int place) {
