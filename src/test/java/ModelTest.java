@@ -106,29 +106,32 @@ public final class ModelTest {
 
     private boolean city() {
         StringBuilder all = new StringBuilder();
-        int towers = by(10) == 0 ? by(10) : 3 + by(6);
+        boolean full = by(5) == 0;
+        int towers = full ? 8 : by(10) == 0 ? by(10) : 3 + by(6);
         for (int k = 0; k < towers; k++) {
             all.append("tower ").append(by(3) == 0 ? by(41) : by(8)).append(';');
         }
         boolean[][] joined = new boolean[10][10];
-        int wires = by(13 + by(10) / 9);
-        for (int k = 0; k < wires && towers > 1; k++) {
+        int wires = full ? 12 : by(13 + by(10) / 9);
+        int told = 0;
+        for (int k = 0; k < 20 * wires && told < wires && towers > 1; k++) {
             int a = by(towers);
             int b = by(towers);
-            if (by(300) > 0 && (a == b || joined[a][b])) {
+            if (by(1000) > 0 && (a == b || joined[a][b])) {
                 continue;
             }
+            told++;
             joined[a][b] = true;
             joined[b][a] = true;
             all.append("wire ").append(a).append(' ').append(b).append(' ').append(by(10)).append(';');
         }
-        int walkers = by(20) == 0 ? by(8) : 1 + by(6);
+        int walkers = full ? 6 : by(20) == 0 ? by(8) : 1 + by(6);
         for (int k = 0; k < walkers && towers > 0; k++) {
             int nerve = by(4) == 0 ? by(41) : 8 + by(16);
             all.append("walker ").append(by(towers)).append(' ').append(nerve).append(' ');
             all.append(by(2) == 0 ? 6 : by(6)).append(';');
         }
-        int letters = by(20) == 0 ? by(10) : by(9);
+        int letters = full ? 8 : by(20) == 0 ? by(10) : by(9);
         for (int k = 0; k < letters && towers > 0; k++) {
             all.append("letter ").append(by(towers)).append(' ').append(by(towers)).append(' ').append(by(6));
             all.append(' ').append(1 + by(9)).append(';');

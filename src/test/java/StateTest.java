@@ -9,6 +9,7 @@ public final class StateTest {
         elements();
         takeAndGive();
         walks();
+        fullCity();
         falls();
         slackResinFog();
         nights();
@@ -135,6 +136,27 @@ public final class StateTest {
         Due.work(x, "night;");
         Due.same("none was walked", -1, x.loudest(0));
         Due.same("none was walked, how often", -1, x.loudest(1));
+    }
+
+    /** All rows as long as they can be. */
+    private static void fullCity() {
+        WirePost x = Due.of("tower 0;".repeat(8) + "wire 0 1 0;wire 0 2 0;wire 0 3 0;wire 0 4 0;wire 0 5 0;wire 0 6 0;"
+                + "wire 0 7 0;wire 1 2 0;wire 1 3 0;wire 1 4 0;wire 1 5 0;wire 1 6 1;" + "walker 5 40 6;".repeat(5)
+                + "walker 6 0 6;" + "letter 6 6 0 1;".repeat(7) + "letter 6 1 0 9;");
+        Due.same("wires", 12, x.told(1));
+        Due.same("walks", 0, x.told(10));
+        Due.same("none", -1, x.loudest(0));
+        Due.same("two steps", 2, Due.work(x, "take 5 7;go 5 1;"));
+        Due.same("the last wire", 11, x.loudest(0));
+        Due.same("one walk", 1, x.told(10));
+        Due.same("the last walker fell", 32, x.told(7));
+        Due.same("the last letter lies", 255, x.tower(6, 3));
+        Due.same("the others stand", 31, x.tower(5, 2));
+        Due.same("a night", 1, Due.work(x, "night;"));
+        Due.same("he stands", 6, x.walker(5, 0));
+        Due.same("no walk", 0, x.told(10));
+        Due.same("five and the last one", 6, x.match());
+        Due.same("the last wire is no bridge, that to 7 is", 64, x.bridges());
     }
 
     private static void falls() {
