@@ -420,8 +420,9 @@ public final class AskTest {
     }
 
     private static void season() {
-        WirePost x = Due.of("tower 0;tower 0;wire 0 1 0;walker 0 0 6;letter 0 1 0 1;", "0");
+        String city = "tower 0;tower 0;wire 0 1 0;walker 0 0 6;letter 0 1 0 1;";
         for (int seed = -3; seed < 4; seed++) {
+            WirePost y = Due.of(city, "0");
             for (int walks = 1; walks <= 20; walks++) {
                 Draw draw = new Draw(seed);
                 int at = 0;
@@ -438,12 +439,14 @@ public final class AskTest {
                     draw.by(16);
                 }
                 String call = "season " + seed + ", " + walks;
-                Due.same(call + " there", there ? 1 : 0, x.season(seed, 0, walks, 0));
-                Due.same(call + " falls", 0, x.season(seed, 0, walks, 1));
-                Due.same(call + " walks", done, x.season(seed, 0, walks, 2));
-                Due.same(call + " days", walks / 8, x.season(seed, 0, walks, 3));
+                Due.same(call + " there", there ? 1 : 0, y.season(seed, 0, walks, 0));
+                Due.same(call + " falls", 0, y.season(seed, 0, walks, 1));
+                Due.same(call + " walks", done, y.season(seed, 0, walks, 2));
+                Due.same(call + " days", walks / 8, y.season(seed, 0, walks, 3));
             }
         }
+        WirePost x = Due.of(city, "0");
+        x.season(3, 16, 96, 0);
         Due.same("nothing stays", 0, x.told(6) + x.told(10) + x.letter(0, 4));
         Due.law(x, "99*fog*day");
         Due.work(x, "night;");
