@@ -66,6 +66,27 @@ final class Edge {
         return String.join(" ", told);
     }
 
+    /** What is asked of a post, call by call; of a small city, since it takes many calls. */
+    static String answers(WirePost x) {
+        StringBuilder all = new StringBuilder("match ").append(x.match()).append(' ').append(x.parts(0)).append(' ');
+        all.append(x.parts(1)).append(' ').append(x.bridges()).append(' ').append(x.frame(0)).append(' ');
+        all.append(x.frame(1)).append(' ').append(x.loudest(0)).append(' ').append(x.season(3, 5, 96, 2)).append(' ');
+        all.append(x.season(3, 5, 96, 0)).append(' ').append(x.span(3, 20, 5, 96, 2)).append("; walkers");
+        for (int walker = 0; walker < x.told(2); walker++) {
+            all.append(' ').append(x.reach(walker)).append(' ').append(x.meet(walker, 0, 0));
+            for (int tower = 0; tower < x.told(0); tower++) {
+                all.append(' ').append(x.way(walker, tower, 0)).append(' ').append(x.way(walker, tower, 1));
+                all.append(' ').append(x.likely(walker, tower, 3, 0)).append(' ').append(x.between(tower, 0));
+            }
+        }
+        all.append("; letters");
+        for (int letter = 0; letter < x.told(3); letter++) {
+            all.append(' ').append(x.send(letter, 0)).append(' ').append(x.send(letter, 1)).append(' ');
+            all.append(x.matched(letter)).append(' ').append(x.share(letter, (1 << x.told(3)) - 1, 100));
+        }
+        return all.toString();
+    }
+
     private interface Asked {
         int of(int element, int what);
     }

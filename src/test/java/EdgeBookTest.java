@@ -150,6 +150,18 @@ public final class EdgeBookTest {
         Due.book(x, "0 59;");
         Due.same("25: kind 5, weight 9", 59, x.fits(0, 1));
         Due.same("25: alone", 1, x.fits(0, 0));
+        for (int kind = 0; kind <= 5; kind++) {
+            Due.book(x, "0 " + (10 * kind + 1) + ";");
+            Due.same("25: weight 1, kind " + kind, 10 * kind + 1, x.fits(0, 1));
+            Due.book(x, "0 " + (10 * kind + 9) + ";");
+            Due.same("25: weight 9, kind " + kind, 10 * kind + 9, x.fits(0, 1));
+        }
+        WirePost full = Due.of(Edge.TOWERS + Edge.WIRES + Edge.WALKERS, "slack + load");
+        Due.work(full, "slack 11 9;");
+        Due.book(full, "11 18;");
+        Due.same("25: by the last wire", 9, full.fits(5, 1));
+        Due.book(full, "11 8;");
+        Due.same("25: by the last wire, none", -1, full.fits(5, 1));
         Due.book(x, "0 59;1 59;2 59;");
         Due.same("25: by each wire", 1, x.fits(0, 0));
     }

@@ -5,6 +5,7 @@ public final class EdgeCityTest {
 
     public static void main(String[] args) {
         fullCity();
+        greatestOfTheLast();
         towersTooMany();
         wiresTooMany();
         walkersTooMany();
@@ -23,6 +24,7 @@ public final class EdgeCityTest {
         firstFromTheLeft();
         allStays();
         allIsNew();
+        smallerBehindTheFullest();
         Due.end();
     }
 
@@ -56,6 +58,26 @@ public final class EdgeCityTest {
         Due.noSuch("13: no letter 8", () -> x.letter(8, 0));
         Due.same("10: all walkers", 63, x.tower(0, 2));
         Due.same("10: all letters", 255, x.tower(0, 3));
+    }
+
+    /** All numbers of the last ones as great as can be. */
+    private static void greatestOfTheLast() {
+        WirePost x = Due.of("tower 0;".repeat(7) + "tower 40;" + Edge.WIRES.substring(0, 121) + "wire 7 6 9;"
+                + "walker 0 0 0;".repeat(5) + "walker 7 40 6;" + "letter 0 0 0 1;".repeat(7) + "letter 7 7 5 9;");
+        Due.same("10: height", 40, x.tower(7, 0));
+        int[] wire = {7, 6, 9, 0};
+        int[] walker = {7, 40, 6, 0, 0, 0, 7};
+        int[] letter = {7, 7, 5, 9, 7, -1, 0};
+        for (int what = 0; what <= 3; what++) {
+            Due.same("11: the last wire, " + what, wire[what], x.wire(11, what));
+        }
+        for (int what = 0; what <= 6; what++) {
+            Due.same("12: the last walker, " + what, walker[what], x.walker(5, what));
+            Due.same("13: the last letter, " + what, letter[what], x.letter(7, what));
+        }
+        Due.same("15: by the last wire's slack", 18, x.lean(5, 11, 0));
+        Due.law(x, "rise");
+        Due.same("15: and its rise", -40, x.lean(5, 11, 0));
     }
 
     private static void towersTooMany() {
@@ -192,6 +214,8 @@ public final class EdgeCityTest {
     /** WORDS: small letters, as many as stand there. */
     private static void words() {
         bad("T: more letters than the word", "towerr 1;", 1, 0);
+        bad("T: the first letter more", "towera 1;", 1, 0);
+        bad("T: the last letter more", "towerz 1;", 1, 0);
         bad("T: fewer", "towe 1;", 1, 0);
         bad("T: great letters", "TOWER 1;", 1, 0);
         bad("T: a great letter within", "towEr 1;", 1, 0);
@@ -279,8 +303,21 @@ public final class EdgeCityTest {
         WirePost y = Edge.midway();
         Due.same("3: a city of no bytes is one, too", 0, y.city(0));
         Edge.sameText("3: as a new object", Edge.seen(new WirePost()), Edge.seen(y));
-        WirePost z = Due.of(Edge.TOWERS + Edge.WIRES + Edge.WALKERS + Edge.LETTERS);
-        Due.same("3: a smaller one behind the fullest", 1, Due.city(z, "tower 5;letter 0 0 2 3;"));
-        Edge.sameText("3: nothing of it is left", Edge.seen(Due.of("tower 5;letter 0 0 2 3;")), Edge.seen(z));
+    }
+
+    /** Nothing of a fuller city, nor of what was asked there, is left in a smaller one. */
+    private static void smallerBehindTheFullest() {
+        String full = Edge.TOWERS + Edge.WIRES + "walker 7 0 6;".repeat(6) + "letter 7 7 0 1;".repeat(8);
+        for (String small : new String[] {"tower 5;letter 0 0 2 3;", "tower 5;tower 2;wire 1 0 3;walker 1 9 6;"
+                + "letter 0 1 2 3;letter 1 1 0 9;", "tower 0;tower 0;tower 0;walker 2 0 0;letter 2 2 0 1;", ""}) {
+            WirePost x = Due.of(full);
+            Due.work(x, "go 0 0;go 0 1;go 0 2;");
+            Due.book(x, "0 1;11 1;");
+            Due.same("27: asked of the fullest", 6, x.match());
+            x.season(1, 1, 96, 0);
+            Due.city(x, small);
+            Edge.sameText("3: nothing of it is left in " + small, Edge.seen(Due.of(small)), Edge.seen(x));
+            Edge.sameText("3: nor in answers of " + small, Edge.answers(Due.of(small)), Edge.answers(x));
+        }
     }
 }

@@ -245,7 +245,7 @@ public final class EdgeLawTest {
         Due.same("36: nor does it", 9, x.lean(0, 0, 0));
     }
 
-    /** Promise 16: slack (0 to 9), rise (-40 to 40), load (0 to 18), kind (0 to 5), letters (0 to 2), hum (0 to 999).. */
+    /** Promise 16: slack (0 to 9), rise (-40 to 40), load (0 to 18), kind (0 to 5), letters (0 to 2) and so on. */
     private static void wouldArguments() {
         String[] names = {"slack", "rise", "load", "kind", "letters", "hum", "fog", "resin", "day"};
         int[] most = {9, 40, 18, 5, 2, 999, 1, 9, 700};

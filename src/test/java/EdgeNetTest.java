@@ -180,8 +180,8 @@ public final class EdgeNetTest {
         Due.same("28: 0 gives way to 2", 1, y.matched(0));
         Due.same("28: so does 1", 2, y.matched(1));
         Due.same("28: 2 has the only one", 0, y.matched(2));
-        WirePost z = Due.of("tower 0;walker 0 0 1;walker 0 0 2;walker 0 0 6;letter 0 0 1 1;letter 0 0 1 1;letter 0 0 2 1;"
-                + "letter 0 0 2 1;");
+        WirePost z = Due.of("tower 0;walker 0 0 1;walker 0 0 2;walker 0 0 6;letter 0 0 1 1;letter 0 0 1 1;"
+                + "letter 0 0 2 1;letter 0 0 2 1;");
         Due.same("27: three of four", 3, z.match());
     }
 
@@ -192,6 +192,9 @@ public final class EdgeNetTest {
         Due.same("28: the least walker", 0, x.matched(0));
         Due.same("28: then the next", 1, x.matched(1));
         Due.same("28: none is last", -1, x.matched(2));
+        WirePost more = Due.of("tower 0;" + "walker 0 0 6;".repeat(3) + "letter 0 0 0 1;letter 0 0 0 1;");
+        Due.same("28: more walkers than letters", 0, more.matched(0));
+        Due.same("28: the next of them", 1, more.matched(1));
         WirePost y = Due.of("tower 0;walker 0 0 3;walker 0 0 6;letter 0 0 5 1;letter 0 0 3 1;letter 0 0 3 1;");
         Due.same("27: two", 2, y.match());
         Due.same("28: 0 to 1, its only one, rather than to none", 1, y.matched(0));

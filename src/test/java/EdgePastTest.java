@@ -1,4 +1,4 @@
-/** Edges of promises 5, 8, 9, 35, 36 and 38: 200 steps, 16 works, undo, images and what is refused by the latest work. */
+/** Edges of promises 5, 8, 9 and 35 to 38: 200 steps, 16 works, undo, images, what the latest work refused. */
 public final class EdgePastTest {
     private static final String CITY = "tower 0;tower 0;wire 0 1 5;walker 0 0 6;letter 0 1 0 1;";
     /** 187 steps are begun: 7 agains and 180 fogs, so that no fog is left. */
@@ -20,6 +20,7 @@ public final class EdgePastTest {
         threeImages();
         imagesKeepWorks();
         imagesOfFullPast();
+        imagesOfUnlikePasts();
         imagesKeepNothingElse();
         restoreBeyond();
         counts();
@@ -29,59 +30,59 @@ public final class EdgePastTest {
     /** 200 STEPS at most are begun by one WORK, what would come behind is left out. */
     private static void twoHundredth() {
         WirePost x = Due.of(CITY, "0");
-        Due.same("2: the 199th", 192, Due.work(x, MANY + "again 10[fog;];night;fog;"));
+        Due.same("T2: the 199th", 192, Due.work(x, MANY + "again 10[fog;];night;fog;"));
         Due.same("9: a night, then fog as the 200th", 1, x.told(5));
         x.undo();
-        Due.same("2: the 200th", 192, Due.work(x, MANY + "again 11[fog;];night;fog;"));
+        Due.same("T2: the 200th", 192, Due.work(x, MANY + "again 11[fog;];night;fog;"));
         Due.same("9: a night as the 200th", 1, x.told(4));
         Due.same("9: no fog as the 201st", 0, x.told(5));
         x.undo();
-        Due.same("2: the 201st", 192, Due.work(x, MANY + "again 12[fog;];night;fog;"));
+        Due.same("T2: the 201st", 192, Due.work(x, MANY + "again 12[fog;];night;fog;"));
         Due.same("9: no night as the 201st", 0, x.told(4));
         Due.same("9: nor fog as the 202nd", 0, x.told(5));
-        Due.same("2: each work has its own 200", 1, Due.work(x, "night;"));
+        Due.same("T2: each work has its own 200", 1, Due.work(x, "night;"));
     }
 
     /** An again, too, each time it is come to. */
     private static void againAsTwoHundredth() {
         WirePost x = Due.of(CITY, "0");
-        Due.same("2: the 199th is an again", 191, Due.work(x, MANY + "again 10[fog;];again 9[night;];"));
+        Due.same("T2: the 199th is an again", 191, Due.work(x, MANY + "again 10[fog;];again 9[night;];"));
         Due.same("9: one night as the 200th", 1, x.told(4));
-        Due.same("2: the 200th is an again", 191, Due.work(x, MANY + "again 11[fog;];again 9[night;];"));
+        Due.same("T2: the 200th is an again", 191, Due.work(x, MANY + "again 11[fog;];again 9[night;];"));
         Due.same("9: no night", 1, x.told(4));
-        Due.same("2: the 201st is an again", 192, Due.work(x, MANY + "again 12[fog;];again 9[night;];"));
+        Due.same("T2: the 201st is an again", 192, Due.work(x, MANY + "again 12[fog;];again 9[night;];"));
         Due.same("9: no night", 1, x.told(4));
-        Due.same("2: 1, 30 of 1 and 5: 181 begun", 150, Due.work(x, "again 30[again 5[fog;];];"));
-        Due.same("2: 1, 28 of 1 and 6: 197; an again and 2 fogs", 170, Due.work(x, "again 30[again 6[fog;];];"));
+        Due.same("T2: 1, 30 of 1 and 5: 181 begun", 150, Due.work(x, "again 30[again 5[fog;];];"));
+        Due.same("T2: 1, 28 of 1 and 6: 197; an again and 2 fogs", 170, Due.work(x, "again 30[again 6[fog;];];"));
     }
 
     private static void refusedStepsAreBegun() {
         WirePost x = Due.of(CITY, "0");
-        Due.same("2: a night as the 200th", 1, Due.work(x, MANY_REFUSED + "again 11[go 0 0;];night;night;"));
+        Due.same("T2: a night as the 200th", 1, Due.work(x, MANY_REFUSED + "again 11[go 0 0;];night;night;"));
         Due.same("9: refused", 191, x.told(9));
-        Due.same("2: none as the 201st", 0, Due.work(x, MANY_REFUSED + "again 12[go 0 0;];night;"));
+        Due.same("T2: none as the 201st", 0, Due.work(x, MANY_REFUSED + "again 12[go 0 0;];night;"));
         Due.same("9: refused", 192, x.told(9));
         Due.same("9: one night", 1, x.told(4));
     }
 
     private static void emptyAgainsAreBegun() {
         WirePost x = Due.of(CITY, "0");
-        Due.same("2: agains of none, 1 and 30 and 30 of them, 61; 122; 183; 199", 1,
+        Due.same("T2: agains of none, 1 and 30 and 30 of them, 61; 122; 183; 199", 1,
                 Due.work(x, "again 30[again 0[];again 5[];];".repeat(3) + "again 15[again 0[];];night;fog;"));
         Due.same("9: a night as the 200th", 1, x.told(4));
         Due.same("9: no fog as the 201st", 0, x.told(5));
-        Due.same("2: one more", 0,
+        Due.same("T2: one more", 0,
                 Due.work(x, "again 30[again 0[];again 5[];];".repeat(3) + "again 16[again 0[];];night;fog;"));
-        Due.same("2: a loop of many empty loops ends", 0,
+        Due.same("T2: a loop of many empty loops ends", 0,
                 Due.work(x, "again 30[again 30[again 30[again 30[again 30[again 30[];];];];];];night;"));
         Due.same("9: its night is left out", 1, x.told(4));
-        Due.same("2: what stands in an again of 0 is not begun", 30,
+        Due.same("T2: what stands in an again of 0 is not begun", 30,
                 Due.work(x, "again 30[again 0[fog;fog;fog;fog;fog;fog;fog;];night;];"));
     }
 
     private static void leftOutIsNotRefused() {
         WirePost x = Due.of(CITY, "0");
-        Due.same("2: done", 191, Due.work(x, MANY + "again 11[fog;];go 0 0;go 0 0;go 0 0;"));
+        Due.same("T2: done", 191, Due.work(x, MANY + "again 11[fog;];go 0 0;go 0 0;go 0 0;"));
         Due.same("9: refused as the 200th alone", 1, x.told(9));
     }
 
@@ -236,6 +237,30 @@ public final class EdgePastTest {
         Due.same("8: which can be undone", 0, x.undo());
         Due.same("9: day 0", 0, x.told(4));
         Due.same("8: no more", -1, x.undo());
+    }
+
+    /** Works that were undone, and others done in their places, leave an image's own as they were. */
+    private static void imagesOfUnlikePasts() {
+        WirePost x = Due.of(CITY, "0");
+        for (int image = 1; image <= 3; image++) {
+            Due.work(x, "slack 0 " + image + ";");
+            Due.work(x, "again " + image + "[resin 0;];");
+            Due.same("35: image " + image, image, x.image());
+            x.undo();
+            x.undo();
+        }
+        Due.work(x, "slack 0 9;");
+        Due.work(x, "again 9[resin 0;];");
+        for (int image = 3; image >= 1; image--) {
+            Due.same("36: image " + image, image - 1, x.restore());
+            Due.same("11: its slack", image, x.wire(0, 2));
+            Due.same("12: its resin", image, x.walker(0, 4));
+            Due.same("8: its latest work", 1, x.undo());
+            Due.same("11: its slack still", image, x.wire(0, 2));
+            Due.same("12: no resin", 0, x.walker(0, 4));
+            Due.same("8: its first", 0, x.undo());
+            Due.same("11: slack as told", 5, x.wire(0, 2));
+        }
     }
 
     private static void imagesOfFullPast() {

@@ -123,11 +123,10 @@ public final class EdgeShareTest {
     }
 
     private static void shareOfWhatIsLeft() {
-        shares("31: 1 of 3, 3, 1, 1: 3 of 8 most", "tower 0;letter 0 0 0 1;letter 0 0 0 3;letter 0 0 0 1;letter 0 0 0 3;",
-                15, 1, 0, 1, 0, 0);
-        shares("31: 2 of them", "tower 0;letter 0 0 0 1;letter 0 0 0 3;letter 0 0 0 1;letter 0 0 0 3;", 15, 2, 0, 1, 0, 1);
-        shares("31: 3: 3, 1 and 1, 3, 1 and 1 left", "tower 0;letter 0 0 0 1;letter 0 0 0 3;letter 0 0 0 1;"
-                + "letter 0 0 0 3;", 15, 3, 1, 1, 0, 1);
+        String city = "tower 0;letter 0 0 0 1;letter 0 0 0 3;letter 0 0 0 1;letter 0 0 0 3;";
+        shares("31: 1, of 3 by 8 most is left", city, 15, 1, 0, 1, 0, 0);
+        shares("31: 2", city, 15, 2, 0, 1, 0, 1);
+        shares("31: 3: 3, 1 and 1, 3, 1 and 1 left", city, 15, 3, 1, 1, 0, 1);
     }
 
     private static void shareInAll() {

@@ -13,6 +13,7 @@ public final class EdgeToldTest {
         letters();
         between();
         loudest();
+        loudestOfTheFullest();
         Due.end();
     }
 
@@ -176,6 +177,15 @@ public final class EdgeToldTest {
         Due.same("14: none", -1, x.between(1, 7));
         Due.same("14: none and back", -1, x.between(7, 1));
         Due.same("14: none of the last ones", -1, x.between(6, 7));
+    }
+
+    private static void loudestOfTheFullest() {
+        WirePost x = Due.of(Edge.TOWERS + Edge.WIRES + "walker 7 0 6;".repeat(5) + "walker 6 0 6;", "0");
+        Due.same("32: none of twelve was", -1, x.loudest(0));
+        Due.work(x, "go 5 1;");
+        Due.same("32: the last of twelve", 11, x.loudest(0));
+        Due.same("32: once", 1, x.loudest(1));
+        Due.same("9: one walk", 1, x.told(10));
     }
 
     /** Promise 32: of alike ones the first; NONE both: none was. */

@@ -12,6 +12,7 @@ public final class EdgeWayTest {
         longestWay();
         noWay();
         wayOfAlikeOnes();
+        wayByTheFirstTower();
         wayByNerve();
         wayWithWhatHeCarries();
         wayAsNow();
@@ -28,6 +29,7 @@ public final class EdgeWayTest {
         likelyLeastTerms();
         likelyWhateverIsNow();
         likelyFirstByTowers();
+        likelyUpAndDown();
         likelyArguments();
         Due.end();
     }
@@ -95,6 +97,22 @@ public final class EdgeWayTest {
         Due.same("19: to 1 it is longer", 3, x.way(0, 1, 0));
         Due.same("19: and begins by 3", 3, x.way(0, 1, 1));
         Due.same("19: to 2 straight", 1, x.way(0, 2, 0));
+    }
+
+    /** The first TOWER is tower 0, too; and none where he is, though a wire leads away from which none leads back. */
+    private static void wayByTheFirstTower() {
+        WirePost x = Due.of(FAN + "walker 3 1 6;", "slack");
+        Due.same("19: 3 by 0 to 1", 2, x.way(0, 1, 0));
+        Due.same("19: by 0, as by 4", 0, x.way(0, 1, 1));
+        Due.same("19: to 0", 0, x.way(0, 0, 1));
+        WirePost down = Due.of("tower 9;tower 0;wire 0 1 0;walker 0 0 6;", "most[rise,0]");
+        Due.same("19: he is there", 0, down.way(0, 0, 0));
+        Due.same("19: he is there, no first", -1, down.way(0, 0, 1));
+        Due.same("19: down", 1, down.way(0, 1, 1));
+        WirePost full = Due.of(Edge.TOWERS + Edge.WIRES + "walker 7 0 6;".repeat(6));
+        Due.same("18: in the fullest city", 255, full.reach(5));
+        Due.same("19: in the fullest city", 2, full.way(5, 6, 0));
+        Due.same("19: by 0", 0, full.way(5, 6, 1));
     }
 
     private static void wayByNerve() {
@@ -356,6 +374,16 @@ public final class EdgeWayTest {
         chance("29: by 2, though 3 were surer", x, 4, 4, 9, 16);
         Due.work(x, "slack 1 3;");
         chance("29: by 3", x, 4, 4, 1, 1);
+    }
+
+    /** Each wire as he walks it, up or down, whichever end was told first. */
+    private static void likelyUpAndDown() {
+        for (String wire : new String[] {"wire 0 1 0;", "wire 1 0 0;"}) {
+            WirePost up = Due.of("tower 0;tower 5;" + wire + "walker 0 5 6;", "most[rise,0]*(1+fog)");
+            chance("29: up by " + wire, up, 1, 3, 13, 16);
+            WirePost down = Due.of("tower 5;tower 0;" + wire + "walker 0 5 6;", "most[rise,0]*(1+fog)");
+            chance("29: down by " + wire, down, 1, 3, 1, 1);
+        }
     }
 
     private static void likelyArguments() {

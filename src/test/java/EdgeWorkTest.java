@@ -17,6 +17,7 @@ public final class EdgeWorkTest {
         giveAtItsTower();
         goRefused();
         goFalls();
+        goUpAndDown();
         whatHeCarriedLies();
         walkedInAnyCase();
         slackRefused();
@@ -24,6 +25,8 @@ public final class EdgeWorkTest {
         fogTurns();
         nightOnTheLastDay();
         nightOfAll();
+        nightOfTheFullest();
+        behindOneThatEndsTooEarly();
         Due.end();
     }
 
@@ -150,6 +153,14 @@ public final class EdgeWorkTest {
         bad("T: one of two open", "again 3[again 3[];", 1, 18);
     }
 
+    private static void behindOneThatEndsTooEarly() {
+        WirePost x = new WirePost();
+        Due.same("T: two are left open", -9, Due.work(x, "again 2[again 3["));
+        Due.same("T: a text anew", 1, Due.work(x, "fog;"));
+        Due.same("T: in which none is open", -9, Due.work(x, "fog;];"));
+        Due.same("T: and six can be", 1, Due.work(x, "again 1[".repeat(6) + "fog;" + "];".repeat(6)));
+    }
+
     private static void emptyWork() {
         WirePost x = Edge.midway();
         String before = state(x);
@@ -165,58 +176,58 @@ public final class EdgeWorkTest {
 
     /** take: REFUSED, if he has FALLEN, L does not lie where he is, is of no KIND he takes, or he carries 2. */
     private static void takeRefused() {
-        refused("2: he has fallen", Edge.midway(), "take 2 2;");
-        refused("2: it lies elsewhere", Edge.midway(), "take 1 2;");
-        refused("2: it lies at his wire's other end", Due.of(FLAT, "0"), "take 2 4;");
+        refused("T2: he has fallen", Edge.midway(), "take 2 2;");
+        refused("T2: it lies elsewhere", Edge.midway(), "take 1 2;");
+        refused("T2: it lies at his wire's other end", Due.of(FLAT, "0"), "take 2 4;");
         WirePost x = Due.of(FLAT, "0");
-        refused("2: of no kind he takes", x, "take 1 1;");
-        refused("2: of a greater kind", x, "take 1 4;");
-        done("2: of the kind he takes", x, "take 1 0;");
-        refused("2: he carries it", x, "take 1 0;");
-        refused("2: another one carries it", x, "take 0 0;");
-        done("2: of any kind", x, "take 0 1;");
-        done("2: given at its T", x, "give 0 1;");
-        refused("2: it is there, where he is", x, "take 0 1;");
+        refused("T2: of no kind he takes", x, "take 1 1;");
+        refused("T2: of a greater kind", x, "take 1 4;");
+        done("T2: of the kind he takes", x, "take 1 0;");
+        refused("T2: he carries it", x, "take 1 0;");
+        refused("T2: another one carries it", x, "take 0 0;");
+        done("T2: of any kind", x, "take 0 1;");
+        done("T2: given at its T", x, "give 0 1;");
+        refused("T2: it is there, where he is", x, "take 0 1;");
         Due.same("9: as told", 2, x.told(6));
     }
 
     private static void takeTwoAtMost() {
         WirePost x = Due.of(FLAT, "0");
-        done("2: one", x, "take 0 0;");
-        done("2: two", x, "take 0 1;");
-        refused("2: a third", x, "take 0 2;");
-        refused("2: another third", x, "take 0 4;");
+        done("T2: one", x, "take 0 0;");
+        done("T2: two", x, "take 0 1;");
+        refused("T2: a third", x, "take 0 2;");
+        refused("T2: another third", x, "take 0 4;");
         Due.same("12: two", 3, x.walker(0, 3));
-        done("2: one given", x, "give 0 0;");
-        done("2: then the third", x, "take 0 2;");
+        done("T2: one given", x, "give 0 0;");
+        done("T2: then the third", x, "take 0 2;");
         Due.same("12: two", 6, x.walker(0, 3));
-        done("2: another walker has his own two", x, "take 1 0;");
+        done("T2: another walker has his own two", x, "take 1 0;");
     }
 
     /** give: REFUSED, if he does not carry it. */
     private static void giveRefused() {
         WirePost x = Due.of(FLAT, "0");
-        refused("2: it lies where he is", x, "give 0 0;");
-        refused("2: it lies elsewhere", x, "give 0 3;");
-        done("2: taken", x, "take 0 0;");
-        refused("2: another one carries it", x, "give 1 0;");
-        done("2: he carries it", x, "give 0 0;");
-        refused("2: no more", x, "give 0 0;");
-        refused("2: it is there", Edge.midway(), "give 2 1;");
-        refused("2: he has fallen", Edge.midway(), "give 2 2;");
+        refused("T2: it lies where he is", x, "give 0 0;");
+        refused("T2: it lies elsewhere", x, "give 0 3;");
+        done("T2: taken", x, "take 0 0;");
+        refused("T2: another one carries it", x, "give 1 0;");
+        done("T2: he carries it", x, "give 0 0;");
+        refused("T2: no more", x, "give 0 0;");
+        refused("T2: it is there", Edge.midway(), "give 2 1;");
+        refused("T2: he has fallen", Edge.midway(), "give 2 2;");
     }
 
     /** give: L lies where he is; is THERE, if that is its T. */
     private static void giveAtItsTower() {
         WirePost x = Due.of(FLAT, "0");
-        done("2: taken", x, "take 0 0;");
-        done("2: given where it was", x, "give 0 0;");
+        done("T2: taken", x, "take 0 0;");
+        done("T2: given where it was", x, "give 0 0;");
         Due.same("13: it lies", 0, x.letter(0, 4));
         Due.same("13: not there", 0, x.letter(0, 6));
         Due.work(x, "take 0 0;go 0 1;");
         Due.same("13: at its T, but carried", -1, x.letter(0, 4));
         Due.same("9: not there", 0, x.told(6));
-        done("2: given", x, "give 0 0;");
+        done("T2: given", x, "give 0 0;");
         Due.same("13: it is at its T", 1, x.letter(0, 4));
         Due.same("13: there", 1, x.letter(0, 6));
         Due.same("9: there", 1, x.told(6));
@@ -227,12 +238,12 @@ public final class EdgeWorkTest {
     /** go: REFUSED, if there is none, or he has FALLEN. */
     private static void goRefused() {
         WirePost x = Due.of(FLAT, "0");
-        refused("2: no wire", x, "go 0 2;");
-        refused("2: where he is", x, "go 0 0;");
-        refused("2: he has fallen", Edge.midway(), "go 2 0;");
-        refused("2: he has fallen, from where he was told", Edge.midway(), "go 2 2;");
-        done("2: along a wire", x, "go 0 1;");
-        done("2: and back", x, "go 0 0;");
+        refused("T2: no wire", x, "go 0 2;");
+        refused("T2: where he is", x, "go 0 0;");
+        refused("T2: he has fallen", Edge.midway(), "go 2 0;");
+        refused("T2: he has fallen, from where he was told", Edge.midway(), "go 2 2;");
+        done("T2: along a wire", x, "go 0 1;");
+        done("T2: and back", x, "go 0 0;");
         Due.same("11: walked twice", 2, x.wire(0, 3));
     }
 
@@ -242,13 +253,29 @@ public final class EdgeWorkTest {
         String[] laws = {"slack", "slack+1", "0-slack", "0-slack-1"};
         for (int k = 0; k < laws.length; k++) {
             WirePost x = Due.of(city, laws[k]);
-            done("2: by " + laws[k], x, "go 0 1;");
+            done("T2: by " + laws[k], x, "go 0 1;");
             Due.same("12: where he is by " + laws[k], k % 2 == 0 ? 1 : -1, x.walker(0, 0));
             Due.same("12: falls by " + laws[k], k % 2, x.walker(0, 5));
             Due.same("9: fallen by " + laws[k], k % 2, x.told(7));
             Due.same("10: not at 0", 0, x.tower(0, 2));
             Due.same("10: at 1 by " + laws[k], k % 2 == 0 ? 3 : 2, x.tower(1, 2));
             Due.same("12: the told tower stays", 0, x.walker(0, 6));
+        }
+    }
+
+    /** "rise": HEIGHT to which less that from which, whichever end was told first. */
+    private static void goUpAndDown() {
+        for (String wire : new String[] {"wire 0 1 0;", "wire 1 0 0;"}) {
+            WirePost x = Due.of("tower 3;tower 9;" + wire + "walker 0 5 6;walker 1 5 6;", "most[rise,0]");
+            Due.work(x, "go 1 0;");
+            Due.same("12: down by " + wire, 0, x.walker(1, 0));
+            Due.work(x, "go 0 1;");
+            Due.same("12: not up by " + wire, -1, x.walker(0, 0));
+            Due.law(x, "least[rise,0]");
+            Due.work(x, "go 1 1;");
+            Due.same("12: up by " + wire, 1, x.walker(1, 0));
+            Due.work(x, "go 1 0;");
+            Due.same("12: not down by " + wire, -1, x.walker(1, 0));
         }
     }
 
@@ -265,7 +292,7 @@ public final class EdgeWorkTest {
         Due.same("13: at 0", 0, x.letter(1, 4));
         Due.same("9: it alone", 2, x.told(6));
         Due.same("10: what lies at 0", 21, x.tower(0, 3));
-        done("2: who has not fallen takes it", x, "take 1 0;");
+        done("T2: who has not fallen takes it", x, "take 1 0;");
         Due.work(x, "night;");
         Due.same("12: up again, he carries nothing", 0, x.walker(0, 3));
         Due.same("13: what is there stays so", 2, x.told(6));
@@ -274,10 +301,10 @@ public final class EdgeWorkTest {
     /** The WIRE was walked once more in any case; by the LAW it hums as it did ahead of the walk. */
     private static void walkedInAnyCase() {
         WirePost x = Due.of("tower 0;tower 0;wire 0 1 5;walker 0 1 6;", "hum");
-        done("2: by hum 0", x, "go 0 1;");
-        done("2: by hum 1", x, "go 0 0;");
+        done("T2: by hum 0", x, "go 0 1;");
+        done("T2: by hum 1", x, "go 0 0;");
         Due.same("12: he is over", 0, x.walker(0, 0));
-        done("2: by hum 2", x, "go 0 1;");
+        done("T2: by hum 2", x, "go 0 1;");
         Due.same("12: he has fallen", -1, x.walker(0, 0));
         Due.same("11: walked three times", 3, x.wire(0, 3));
         Due.same("9: three walks", 3, x.told(10));
@@ -295,40 +322,40 @@ public final class EdgeWorkTest {
     /** slack: SLACK of E is S, 0 to 9 (REFUSED, if it is). */
     private static void slackRefused() {
         WirePost x = Due.of(FLAT, "0");
-        refused("2: it is 5", x, "slack 0 5;");
-        done("2: 0", x, "slack 0 0;");
+        refused("T2: it is 5", x, "slack 0 5;");
+        done("T2: 0", x, "slack 0 0;");
         Due.same("11: 0", 0, x.wire(0, 2));
-        refused("2: it is 0", x, "slack 0 0;");
-        done("2: 9", x, "slack 0 9;");
+        refused("T2: it is 0", x, "slack 0 0;");
+        done("T2: 9", x, "slack 0 9;");
         Due.same("11: 9", 9, x.wire(0, 2));
-        refused("2: it is 9", x, "slack 0 9;");
-        done("2: 5 again", x, "slack 0 5;");
+        refused("T2: it is 9", x, "slack 0 9;");
+        done("T2: 5 again", x, "slack 0 5;");
     }
 
     /** resin: W has put on 1 more (9 at most; REFUSED, if he has 9, or has FALLEN). */
     private static void resinRefused() {
         WirePost x = Due.of(FLAT, "0");
         for (int k = 1; k <= 9; k++) {
-            done("2: resin " + k, x, "resin 1;");
+            done("T2: resin " + k, x, "resin 1;");
             Due.same("12: resin " + k, k, x.walker(1, 4));
         }
-        refused("2: a tenth", x, "resin 1;");
-        done("2: another one has none yet", x, "resin 0;");
-        refused("2: he has fallen", Edge.midway(), "resin 2;");
+        refused("T2: a tenth", x, "resin 1;");
+        done("T2: another one has none yet", x, "resin 0;");
+        refused("T2: he has fallen", Edge.midway(), "resin 2;");
         WirePost y = Due.of(FLAT, "1");
         Due.work(y, "resin 0;go 0 1;");
         Due.same("12: who has fallen keeps what he put on", 1, y.walker(0, 4));
-        refused("2: and puts on no more", y, "resin 0;");
+        refused("T2: and puts on no more", y, "resin 0;");
     }
 
     private static void fogTurns() {
         WirePost x = new WirePost();
-        Due.same("2: no fog at first", 0, x.told(5));
-        done("2: fog", x, "fog;");
+        Due.same("T2: no fog at first", 0, x.told(5));
+        done("T2: fog", x, "fog;");
         Due.same("9: fog", 1, x.told(5));
-        done("2: none any more", x, "fog;");
+        done("T2: none any more", x, "fog;");
         Due.same("9: none", 0, x.told(5));
-        Due.same("2: never refused", 30, Due.work(x, "again 30[fog;];"));
+        Due.same("T2: never refused", 30, Due.work(x, "again 30[fog;];"));
         Due.same("9: thirty times", 0, x.told(5));
     }
 
@@ -340,10 +367,10 @@ public final class EdgeWorkTest {
         }
         Due.same("5: to day 699", 123, Due.work(x, "again 4[again 30[night;];];again 3[night;];"));
         Due.same("9: day 699", 699, x.told(4));
-        done("2: a night on day 699", x, "night;");
+        done("T2: a night on day 699", x, "night;");
         Due.same("9: day 700", 700, x.told(4));
         Due.same("5: some more", 3, Due.work(x, "fog;resin 0;slack 0 6;"));
-        refused("2: a night on day 700", x, "night;");
+        refused("T2: a night on day 700", x, "night;");
         Due.same("9: fog stays", 1, x.told(5));
         Due.same("12: resin stays", 1, x.walker(0, 4));
         Due.same("15: by the law", 50, x.lean(0, 0, 0));
@@ -351,10 +378,25 @@ public final class EdgeWorkTest {
         Due.same("9: each is refused", 3, x.told(9));
     }
 
+    private static void nightOfTheFullest() {
+        String city = Edge.TOWERS + Edge.WIRES + "walker 7 0 6;".repeat(6) + "letter 7 7 0 1;".repeat(8);
+        WirePost x = Due.of(city, "resin");
+        Due.work(x, "resin 0;resin 5;go 0 0;go 5 0;take 1 0;take 1 7;");
+        done("T2: a night of the fullest city", x, "night;");
+        for (int k = 0; k < 6; k++) {
+            Due.same("12: all at 7, walker " + k, 7, x.walker(k, 0));
+            Due.same("12: falls of " + k, k % 5 == 0 ? 1 : 0, x.walker(k, 5));
+            Due.same("12: no resin of " + k, 0, x.walker(k, 4));
+        }
+        Due.same("12: what he carries", 129, x.walker(1, 3));
+        Due.same("10: the others lie", 126, x.tower(7, 3));
+        Due.same("9: no walks", 0, x.told(10));
+    }
+
     /** night: nothing hums; nobody has resin; who has FALLEN stands at the TOWER he was told at; no fog. */
     private static void nightOfAll() {
         WirePost x = Edge.midway();
-        done("2: a night", x, "night;");
+        done("T2: a night", x, "night;");
         Due.same("9: one day more", 2, x.told(4));
         Due.same("9: no fog", 0, x.told(5));
         Due.same("9: nobody has fallen", 0, x.told(7));
@@ -370,7 +412,7 @@ public final class EdgeWorkTest {
         Due.same("9: what is there stays so", 2, x.told(6));
         Due.same("32: none was walked", -1, x.loudest(0));
         WirePost y = new WirePost();
-        done("2: a night without fog, falls and walkers", y, "night;");
+        done("T2: a night without fog, falls and walkers", y, "night;");
         Due.same("9: no fog comes by it", 0, y.told(5));
     }
 }

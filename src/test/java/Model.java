@@ -368,7 +368,8 @@ final class Model {
             int letters = town.letters.size() - 1;
             switch (word) {
                 case "take", "give" -> all.add(new Step(word, text.number(0, walkers), text.number(0, letters), null));
-                case "go" -> all.add(new Step(word, text.number(0, walkers), text.number(0, town.towers.size() - 1), null));
+                case "go" ->
+                    all.add(new Step(word, text.number(0, walkers), text.number(0, town.towers.size() - 1), null));
                 case "slack" -> all.add(new Step(word, text.number(0, town.wires.size() - 1), text.number(0, 9), null));
                 case "resin" -> all.add(new Step(word, text.number(0, walkers), 0, null));
                 case "again" -> {
@@ -407,7 +408,8 @@ final class Model {
             case "take": {
                 boolean kind = town.walkers.get(s.x).takes == 6
                         || town.walkers.get(s.x).takes == town.letters.get(s.y).kind;
-                if (w.at[s.x] == -1 || w.there[s.y] || w.lies[s.y] != w.at[s.x] || !kind || carried(w, s.x).size() == 2) {
+                boolean full = carried(w, s.x).size() == 2;
+                if (w.at[s.x] == -1 || w.there[s.y] || w.lies[s.y] != w.at[s.x] || !kind || full) {
                     return false;
                 }
                 w.lies[s.y] = -1;

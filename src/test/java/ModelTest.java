@@ -238,7 +238,8 @@ public final class ModelTest {
             case 6: return same("status " + what, () -> x.status(what), () -> y.status(what));
             case 7: return same("count " + what, () -> x.count(what), () -> y.count(what));
             case 8: {
-                int[] v = {near(10), near(81) - 40, near(19), near(6), near(3), near(1000), near(2), near(10), near(701)};
+                int[] v = {near(10), near(81) - 40, near(19), near(6), near(3), near(1000), near(2), near(10),
+                    near(701)};
                 return same("would", () -> x.would(v[0], v[1], v[2], v[3], v[4], v[5], v[6], v[7], v[8]),
                         () -> y.would(v));
             }
